@@ -150,6 +150,10 @@ public final class ActsTest {
         c.due("chance(0)", f.chance(0), -1);
         c.due("chance(101)", f.chance(101), -1);
         c.due("status(3)", f.status(3), 2);
+        f = c.city("part a air 4;", 1);
+        for (int k = 0; k < 9; k++) {
+            c.due("chance(100) without slip", f.chance(100), 0);
+        }
         f = c.city("slip 100;", 1);
         c.due("chance(100) without parts", f.chance(100), 0);
         f = c.city("part a air 4;slip 100;", 2);

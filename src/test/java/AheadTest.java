@@ -89,6 +89,9 @@ public final class AheadTest {
         c.due("say(0, 1, 1), fewest first", x.say(0, 1, 1), 0);
         c.due("say(0, 2, 0)", x.say(0, 2, 0), 10);
         c.due("say(0, 2, 1)", x.say(0, 2, 1), 1);
+        x = c.city("part a air 0;turns 20-told;gale 1;", 3);
+        c.due("say(0, 1, 0), the last number", x.say(0, 1, 0), 20);
+        c.due("say(0, 1, 1), the last number", x.say(0, 1, 1), 0);
         c.due("say(0, 0, 0)", x.say(0, 0, 0), -1);
         c.due("say(0, 21, 0)", x.say(0, 21, 0), -1);
         c.due("say(0, 20, 1)", x.say(0, 20, 1) >= 0, true);
@@ -158,6 +161,12 @@ public final class AheadTest {
         c.due("rest(1) by an act", x.rest(1), 4);
         x = c.city("part a air 5;part b air 5;near a b;says 4;turns told+(most-5)*(most-5);", 5);
         c.due("rest(1)", x.rest(1), 0);
+        x = c.city("part a air 5;part b air 1;part d air 9;part e air 3;part f air 0;part g air 8;part h air 2;says 4;", 8);
+        c.due("rest(1) of seven", x.rest(1), 2 + 8 + 16 + 64);
+        x = c.city("part a air 5;part b air 5;near a b;says 10-most;turns told+night*0;", 5);
+        c.due("rest(2)", x.rest(2), 0);
+        x = c.city("part a air 5;part b air 5;part d air 5;", 3);
+        c.due("rest(1) of like ones", x.rest(1), 0);
         c.due("rest(0)", x.rest(0), -1);
         c.due("rest(31)", x.rest(31), -1);
         c.due("rest(-1)", x.rest(-1), -1);

@@ -9,6 +9,9 @@ public final class AskTest {
         faults(c, x);
         depth(c, x);
         withoutParts(c);
+        for (int k = 0; k < 30; k++) {
+            c.ask(x, "total 1" + "+1".repeat(500), 3 * 501);
+        }
         c.due("status(1)", x.status(1), 0);
         c.finish();
     }
@@ -78,6 +81,10 @@ public final class AskTest {
         c.ask(x, "often not air=4 and not air=9", 1);
         c.ask(x, "often not[air=4 and air=9]", 3);
         c.ask(x, "often not not air=4", 1);
+        c.ask(x, "often air>3 and all", 3);
+        c.ask(x, "often all and air<17", 3);
+        c.ask(x, "often not air=4 and all", 2);
+        c.ask(x, "often air=4 or air=9 or air=16", 3);
         c.ask(x, "often 1+1=2 and air-4<1", 1);
         c.ask(x, "often[[all]]", 3);
     }
@@ -103,6 +110,11 @@ public final class AskTest {
         c.askFault(x, "first all]", 1, 9);
         c.askFault(x, "first not", 1, 9);
         c.askFault(x, "first all or", 1, 12);
+        c.askFault(x, "first all and", 1, 13);
+        c.askFault(x, "first all and ]", 1, 14);
+        c.askFault(x, "total 1+", 1, 8);
+        c.askFault(x, "total 1*", 1, 8);
+        c.askFault(x, "total (1+)", 1, 9);
         c.askFault(x, "first all xor all", 1, 10);
         c.askFault(x, "first air>5and all", 1, 11);
         c.askFault(x, "total 5;", 1, 7);

@@ -99,6 +99,9 @@ public final class CityTextTest {
         c.cityFault("says", 1, 4);
         c.cityFault("says ;", 1, 5);
         c.cityFault("says 1+;", 1, 7);
+        c.cityFault("says 1*;", 1, 7);
+        c.cityFault("says 1/", 1, 7);
+        c.cityFault("says (1+);", 1, 8);
         c.cityFault("says -1;", 1, 5);
         c.cityFault("says 1 2;", 1, 7);
         c.cityFault("says 1air;", 1, 6);
@@ -200,6 +203,9 @@ public final class CityTextTest {
         }
         c.city(eighty.toString(), 80);
         c.city(eighty + " \n", 80);
+        x = c.city(P + eighty.substring(7), 80);
+        c.due("tonight(0, 0) without says", x.tonight(0, 0), 1);
+        c.due("tonight(0, 3) without turns", x.tonight(0, 3), 1);
         c.cityFault(eighty + " slip 1;", 5, 561);
         c.cityFault(eighty + "#", 5, 560);
         c.cityFault(eighty + ";", 5, 560);

@@ -73,6 +73,12 @@ public final class ImageTest {
         c.due("end(1)", x.end(1), false);
         c.due("image()", x.image(), 12);
         octets(c, x, checked(3, 231, 20, 3, 254, 0, 1, 20, 6, 0, 255, 0));
+        Check.tell(x, checked(0, 7, 1, 0, 0, 2, 0, 255, 3, 0, 254, 0));
+        c.due("on()", x.on(), true);
+        c.due("has(4)", x.has(4), 0);
+        c.due("has(5)", x.has(5), 0);
+        c.due("image()", x.image(), 12);
+        octets(c, x, checked(0, 7, 1, 0, 0, 2, 0, 255, 3, 0, 254, 0));
     }
 
     private static void refusing(Check c) {

@@ -84,6 +84,9 @@ public final class SeenTest {
         x = c.city(late, 4);
         c.due("tells(0, 0) of a later night", x.tells(0, 0), 2);
         c.due("tells(0, 1) of a later night", x.tells(0, 1), 4);
+        sees(c, x, 1, 2, 0, 0);
+        c.due("fits(0) with 0", x.fits(0), 15);
+        c.due("tells(0, 1) with 0", x.tells(0, 1), 4);
         sees(c, x, 1, 0, 0, 7);
         c.due("tells(0, 0) of one number", x.tells(0, 0), 1);
         c.due("tells(0, 1) of one number", x.tells(0, 1), 1);

@@ -81,6 +81,12 @@ public final class StateTest {
         x.nights(1);
         tonight(c, x, 0, 4, 15, 4, 4);
         tonight(c, x, 2, 20, 15, 20, 20);
+        NightForecast alone = c.city("part a air 4;says 3;turns told+least+2;rival most-1;", 4);
+        tonight(c, alone, 0, 3, 3, 3, 9);
+        NightForecast many = c.city("part a air 4;part b air 7;part d air 2;part e air 5;near a b;near a d;near e a;"
+            + "turns least;says most;", 9);
+        tonight(c, many, 0, 7, 7, 7, 2);
+        tonight(c, many, 3, 4, 4, 4, 4);
         c.due("tonight(0, 4)", x.tonight(0, 4), -1);
         c.due("tonight(0, -1)", x.tonight(0, -1), -1);
         c.due("tonight(3, 0)", x.tonight(3, 0), -1);
