@@ -336,6 +336,9 @@ public final class AheadTermsTest {
         x = c.city("part a air 4;turns told/11;");
         c.due("tells(0, 0): 0 .. 10, 11 .. 20", x.tells(0, 0), 1);
         c.due("tells(0, 1): the greater half", x.tells(0, 1), 11);
+        c.due("tells(0, 1): all are 20", c.city("part a air 4;turns 20;").tells(0, 1), 21);
+        c.due("tells(0, 1): 10 .. 20 are 20", c.city("part a air 4;turns told*2;").tells(0, 1), 11);
+        c.due("tells(0, 1): 0 .. 10 are 0", c.city("part a air 4;turns (told-10)*2;").tells(0, 1), 11);
         x = c.city("part a air 4;part b air 0;near a b;aunt a;turns (1-min(night,1))*3;");
         c.due("tells(0, 1): all are alike", x.tells(0, 1), 21);
         x = c.city("part a air 0;part b air 0;near a b;turns most;");

@@ -2,18 +2,22 @@
 public final class AskTest {
     public static void main(String[] args) {
         Check c = new Check("AskTest");
-        NightForecast x = c.city("part a air 4;part b air 16;part d air 9;near a b;near b d;aunt d;deaf a;says 12;");
-        kinds(c, x);
-        values(c, x);
-        tests(c, x);
-        faults(c, x);
-        depth(c, x);
+        kinds(c, three(c));
+        values(c, three(c));
+        tests(c, three(c));
+        faults(c, three(c));
+        depth(c, three(c));
         withoutParts(c);
-        for (int k = 0; k < 30; k++) {
+        NightForecast x = three(c);
+        for (int k = 0; k < 9; k++) {
             c.ask(x, "total 1" + "+1".repeat(500), 3 * 501);
         }
         c.due("status(1)", x.status(1), 0);
         c.finish();
+    }
+
+    private static NightForecast three(Check c) {
+        return c.city("part a air 4;part b air 16;part d air 9;near a b;near b d;aunt d;deaf a;says 12;");
     }
 
     private static void kinds(Check c, NightForecast x) {

@@ -188,6 +188,7 @@ public final class CityTermsTest {
             c.cityFault(P + "deaf " + word + ";", 1, 18);
             c.cityFault(P + "near " + word + " p;", 1, 18);
             c.cityFault(P + "near p " + word + ";", 1, 20);
+            c.city("part x" + word.substring(1) + " air 1;aunt x" + word.substring(1) + ";", 2);
             String begun = word.substring(0, word.length() - 1);
             if (!begun.equals("gale")) {
                 c.city("part " + begun + " air 1;aunt " + begun + ";", 2);
@@ -202,6 +203,8 @@ public final class CityTermsTest {
     private static void blanks(Check c) {
         c.term(4, "Blanks (10, 32) are where one likes (words and numbers side by side need one).");
         c.city("\n part\n\np \n air  1\n ;\n", 1);
+        c.city("part\np air 1;part q air 1;aunt p;deaf\nq;near p\nq;", 5);
+        c.cityFault("part\np air 1;part p", 3, 18);
         c.city("part p air 1;part q air 2;near p q;says(air+1)*2/most-min(1,2);", 4);
         c.city("says ( air + 1 ) * 2 / most - min ( 1 , 2 ) ; ", 1);
         c.city("says\n(\nair\n+\n1\n)\n*\n2\n;", 1);
@@ -240,6 +243,15 @@ public final class CityTermsTest {
         c.cityFault("#", 1, 0);
         c.cityFault("  pert p air 1;", 1, 2);
         c.cityFault("par p air 1;", 1, 0);
+        String[] heads = {"part", "near", "aunt", "deaf", "says", "rival", "turns", "gale", "slip"};
+        for (String head : heads) {
+            c.cityFault("x" + head.substring(1) + " 1;", 1, 0);
+            c.cityFault(head.substring(0, head.length() - 1) + "x 1;", 1, 0);
+            c.cityFault("x" + head + " 1;", 1, 0);
+        }
+        c.cityFault("part p xir 1;", 1, 7);
+        c.cityFault("says xost;", 1, 5);
+        c.cityFault("says xin(1,2);", 1, 5);
         c.cityFault("parts p air 1;", 1, 0);
         c.cityFault("part p airs 1;", 1, 7);
         c.cityFault("part p ai 1;", 1, 7);

@@ -213,6 +213,11 @@ public final class LastPromisesTest {
         c.due("has(2)", x.has(2), 5);
     }
 
+    /** On an object of its own, as one may be used for 512 calls alone. */
+    private static void refusedFirst(Check c, int... bytes) {
+        refused(c, c.city(THREE), bytes);
+    }
+
     private static void refused(Check c, NightForecast x, int... bytes) {
         int count = x.status(5);
         String before = Check.all(x);
@@ -224,38 +229,37 @@ public final class LastPromisesTest {
 
     private static void onRefused(Check c) {
         c.sentence(32, "false, refused (5), when it is none");
-        NightForecast x = c.city(THREE);
-        refused(c, x);
-        refused(c, x, Check.image(0));
-        refused(c, x, Check.image(0, 4, 0, 255, 9, 3, 255));
-        refused(c, x, Check.image(0, 4, 0, 255, 9, 3, 255, 20, 2));
-        refused(c, x, Check.image(0, 4, 0, 255, 9, 3, 255, 20, 2, 255, 1, 0, 255));
-        refused(c, x, Check.image(0, 4, 0, 255, 9, 3, 255, 20, 2, 255, 1));
-        refused(c, x, Check.image(0, 4, 4, 255, 9, 3, 255, 20, 2, 255));
-        refused(c, x, Check.image(0, 4, 0, 255, 9, 3, 255, 20, 255, 255));
-        refused(c, x, Check.image(0, 4, 0, 21, 9, 3, 255, 20, 2, 255));
-        refused(c, x, Check.image(0, 4, 0, 255, 9, 3, 253, 20, 2, 255));
-        refused(c, x, Check.image(0, 4, 0, 255, 9, 3, 255, 20, 2, 128));
+        refusedFirst(c);
+        refusedFirst(c, Check.image(0));
+        refusedFirst(c, Check.image(0, 4, 0, 255, 9, 3, 255));
+        refusedFirst(c, Check.image(0, 4, 0, 255, 9, 3, 255, 20, 2));
+        refusedFirst(c, Check.image(0, 4, 0, 255, 9, 3, 255, 20, 2, 255, 1, 0, 255));
+        refusedFirst(c, Check.image(0, 4, 0, 255, 9, 3, 255, 20, 2, 255, 1));
+        refusedFirst(c, Check.image(0, 4, 4, 255, 9, 3, 255, 20, 2, 255));
+        refusedFirst(c, Check.image(0, 4, 0, 255, 9, 3, 255, 20, 255, 255));
+        refusedFirst(c, Check.image(0, 4, 0, 21, 9, 3, 255, 20, 2, 255));
+        refusedFirst(c, Check.image(0, 4, 0, 255, 9, 3, 253, 20, 2, 255));
+        refusedFirst(c, Check.image(0, 4, 0, 255, 9, 3, 255, 20, 2, 128));
         for (int k = 0; k < 12; k++) {
             int[] wrong = Check.image(300, 4, 0, 255, 9, 3, 255, 20, 2, 255);
             wrong[k] ^= 1;
-            refused(c, x, wrong);
+            refusedFirst(c, wrong);
         }
         refused(c, new NightForecast());
         refused(c, new NightForecast(), Check.image(0, 4, 0, 255));
-        c.turnOn(x, 300, 4, 0, 20, 9, 3, 255, 20, 2, 254);
+        c.turnOn(c.city(THREE), 300, 4, 0, 20, 9, 3, 255, 20, 2, 254);
     }
 
     private static void onTooLarge(Check c) {
         c.sentence(32, "(NIGHT 999, air 20 at most)");
         NightForecast x = c.city(THREE);
         c.turnOn(x, 999, 4, 0, 255, 9, 3, 255, 20, 2, 255);
-        refused(c, x, Check.image(1000, 4, 0, 255, 9, 3, 255, 20, 2, 255));
-        refused(c, x, Check.image(1024, 4, 0, 255, 9, 3, 255, 20, 2, 255));
-        refused(c, x, Check.image(65535, 4, 0, 255, 9, 3, 255, 20, 2, 255));
-        refused(c, x, Check.image(0, 21, 0, 255, 9, 3, 255, 20, 2, 255));
-        refused(c, x, Check.image(0, 4, 0, 255, 9, 3, 255, 21, 2, 255));
-        refused(c, x, Check.image(0, 4, 0, 255, 255, 3, 255, 20, 2, 255));
+        refusedFirst(c, Check.image(1000, 4, 0, 255, 9, 3, 255, 20, 2, 255));
+        refusedFirst(c, Check.image(1024, 4, 0, 255, 9, 3, 255, 20, 2, 255));
+        refusedFirst(c, Check.image(65535, 4, 0, 255, 9, 3, 255, 20, 2, 255));
+        refusedFirst(c, Check.image(0, 21, 0, 255, 9, 3, 255, 20, 2, 255));
+        refusedFirst(c, Check.image(0, 4, 0, 255, 9, 3, 255, 21, 2, 255));
+        refusedFirst(c, Check.image(0, 4, 0, 255, 255, 3, 255, 20, 2, 255));
         c.turnOn(x, 0, 20, 0, 255, 20, 3, 255, 20, 2, 255);
         NightForecast none = new NightForecast();
         refused(c, none, Check.image(1000));
@@ -274,11 +278,16 @@ public final class LastPromisesTest {
 
     private static void onAllStaying(Check c) {
         c.sentence(32, "all staying");
-        NightForecast x = busy(c);
-        refused(c, x, Check.image(0, 4, 0, 255, 9, 3, 255, 20, 2, 200));
-        refused(c, x, Check.image(1000, 0, 0, 255, 0, 0, 255, 0, 0, 255));
-        refused(c, x, 1, 2, 3);
-        c.due("acts, KEPT and seed stay", Check.usedUp(x), Check.usedUp(busy(c)));
+        int[][] wrong = {
+            Check.image(0, 4, 0, 255, 9, 3, 255, 20, 2, 200), Check.image(1000, 0, 0, 255, 0, 0, 255, 0, 0, 255), {1, 2, 3}
+        };
+        String due = Check.usedUp(busy(c));
+        for (int[] bytes : wrong) {
+            NightForecast x = busy(c);
+            Check.tell(x, bytes);
+            c.due("on()", x.on(), false);
+            c.due("acts, KEPT and seed stay", Check.usedUp(x), due);
+        }
     }
 
     private static void counts(Check c, NightForecast x, int... due) {

@@ -326,8 +326,13 @@ public final class QuestionTermsTest {
     private static void faultWords(Check c) {
         c.term(29, "(an unknown word at its first byte");
         NightForecast x = three(c);
-        c.askFault(x, "firs all", 1, 0);
-        c.askFault(x, "firsts all", 1, 0);
+        String[] heads = {"first", "last", "often", "total", "most", "least"};
+        for (String head : heads) {
+            c.askFault(x, "x" + head.substring(1) + " all", 1, 0);
+            c.askFault(x, head.substring(0, head.length() - 1) + " all", 1, 0);
+            c.askFault(x, head + "s all", 1, 0);
+        }
+        x = three(c);
         c.askFault(x, "  never all", 1, 2);
         c.askFault(x, "air", 1, 0);
         c.askFault(x, "number", 1, 0);
@@ -336,6 +341,12 @@ public final class QuestionTermsTest {
         c.askFault(x, "total ai", 1, 6);
         c.askFault(x, "total abcdefghijk", 1, 6);
         c.askFault(x, "total air + dollis", 1, 12);
+        c.askFault(x, "total xir", 1, 6);
+        c.askFault(x, "total xumber", 1, 6);
+        c.askFault(x, "often xll", 1, 6);
+        c.askFault(x, "often xot all", 1, 6);
+        c.askFault(x, "often all xnd all", 1, 10);
+        c.askFault(x, "often all xr all", 1, 10);
         c.askFault(x, "often alls", 1, 6);
         c.askFault(x, "often not nought", 1, 10);
         c.askFault(x, "often all xor all", 1, 10);

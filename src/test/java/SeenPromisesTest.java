@@ -59,14 +59,13 @@ public final class SeenPromisesTest {
         sixteen[47] = 5;
         c.see(x, sixteen);
         c.due("fits(0): the 16th row counts", x.fits(0), 0);
-        refused(c, x, new int[51]);
-        refused(c, x, new int[49]);
-        refused(c, x, new int[1599]);
-        refused(c, x, 0);
-        refused(c, x, 0, 0);
-        refused(c, x, 0, 0, 4, 0);
-        refused(c, x, 0, 0, 4, 0, 0);
-        c.due("has(8) stays", x.has(8), 16);
+        int[] lengths = {1, 2, 4, 5, 47, 49, 50, 51, 54, 96, 1599};
+        for (int length : lengths) {
+            x = c.city(TWO);
+            c.see(x, sixteen);
+            refused(c, x, new int[length]);
+            c.due("has(8) stays", x.has(8), 16);
+        }
     }
 
     private static void seeHowMany(Check c) {
@@ -82,20 +81,18 @@ public final class SeenPromisesTest {
 
     private static void seeRefused(Check c) {
         c.sentence(18, "NONE, refused (1), all staying, when it is none such");
-        NightForecast x = c.city(TWO);
-        x.read(0, 7);
-        c.see(x, 1, 0, 7, 0, 1, 9);
-        refused(c, x, 31, 0, 4);
-        refused(c, x, 255, 0, 4);
-        refused(c, x, 0, 2, 4);
-        refused(c, x, 0, 255, 4);
-        refused(c, x, 0, 0, 4, 31, 1, 4);
-        refused(c, x, 0, 0, 4, 0, 7, 4);
-        c.due("has(8)", x.has(8), 2);
-        c.due("fits(0)", x.fits(0), ALL);
-        c.due("fits(1)", x.fits(1), 1 << 9);
-        c.due("fault(0): it has no FAULT", x.fault(0), 0);
-        c.see(x, 30, 1, 20);
+        int[][] wrong = {{31, 0, 4}, {255, 0, 4}, {0, 2, 4}, {0, 255, 4}, {0, 0, 4, 31, 1, 4}, {0, 0, 4, 0, 7, 4}};
+        for (int[] rows : wrong) {
+            NightForecast x = c.city(TWO);
+            x.read(0, 7);
+            c.see(x, 1, 0, 7, 0, 1, 9);
+            refused(c, x, rows);
+            c.due("has(8)", x.has(8), 2);
+            c.due("fits(0)", x.fits(0), ALL);
+            c.due("fits(1)", x.fits(1), 1 << 9);
+            c.due("fault(0): it has no FAULT", x.fault(0), 0);
+        }
+        c.see(c.city(TWO), 30, 1, 20);
         refused(c, new NightForecast(), 0, 0, 0);
     }
 
