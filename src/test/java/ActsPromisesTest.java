@@ -27,6 +27,7 @@ public final class ActsPromisesTest {
         chanceSlips(c);
         chanceCannotBe(c);
         undoLatest(c);
+        undoLastPart(c);
         undoSeed(c);
         undoNone(c);
         seedIs(c);
@@ -397,6 +398,33 @@ public final class ActsPromisesTest {
         x.read(0, 5);
         c.due("undo() of an ACT behind an undo()", x.undo(), true);
         c.due("all ahead of it", Check.brief(x), states[0]);
+    }
+
+    /** What is undone, and what is looked at AHEAD, holds for the last of seven PARTS too. */
+    private static void undoLastPart(Check c) {
+        c.sentence(27, "The latest ACT is undone");
+        StringBuilder text = new StringBuilder();
+        for (char name = 'a'; name < 'h'; name++) {
+            text.append("part ").append(name).append(" air 4;");
+        }
+        NightForecast x = c.city(text.toString());
+        x.read(6, 9);
+        c.due("later(6, 1, 0)", x.later(6, 1, 0), 9);
+        x.aunt(6, 1);
+        x.deaf(6, 1);
+        x.nights(1);
+        c.due("part(6, 0) of a DEAF one", x.part(6, 0), 4);
+        x.undo();
+        x.undo();
+        c.due("part(6, 2) undone", x.part(6, 2), 0);
+        c.due("tonight(6, 0): the first ACT is there", x.tonight(6, 0), 9);
+        x.undo();
+        c.due("part(6, 1) undone", x.part(6, 1), 0);
+        x.nights(1);
+        c.due("part(6, 0)", x.part(6, 0), 9);
+        x.undo();
+        c.due("part(6, 0) undone", x.part(6, 0), 4);
+        c.due("tonight(6, 0) behind it", x.tonight(6, 0), 9);
     }
 
     private static void undoSeed(Check c) {

@@ -87,6 +87,9 @@ public final class AheadTermsTest {
         c.due("say(0, 2, 1): for the other's sake", x.say(0, 2, 1), 0);
         x = c.city("part a air 0;part b air 14;says air+1;");
         c.due("say(0, 1, 1): of all PARTS", x.say(0, 1, 1), 1);
+        x = c.city("part a air 0;turns (21-told)*20;");
+        c.due("say(0, 1, 0): 21 would do, but is no number", x.say(0, 1, 0), 20);
+        c.due("say(0, 1, 1): 21 would do, but is no number", x.say(0, 1, 1), 1);
         x = c.city("part a air 20;turns told;gale 5;");
         c.due("say(0, 1, 1): one that stays does not rise", x.say(0, 1, 1), 0);
         x.read(0, 19);

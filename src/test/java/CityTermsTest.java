@@ -250,6 +250,13 @@ public final class CityTermsTest {
             c.cityFault("x" + head + " 1;", 1, 0);
         }
         c.cityFault("part p xir 1;", 1, 7);
+        // Beside the letters and digits stand these signs.
+        char[] signs = {'/', ':', '@', '[', '`', '{'};
+        for (char sign : signs) {
+            c.cityFault("gale " + sign + ";", 1, 5);
+            c.cityFault("gale 1" + sign + ";", 1, 6);
+            c.cityFault("gale" + sign + "1;", 1, 4);
+        }
         c.cityFault("says xost;", 1, 5);
         c.cityFault("says xin(1,2);", 1, 5);
         c.cityFault("parts p air 1;", 1, 0);

@@ -343,6 +343,9 @@ public final class NightTermsTest {
         c.due("kept(40, 0) of 41", x.kept(40, 0), -1);
         x.undo();
         c.due("kept(0, 0) undone", x.kept(0, 0), 0);
+        c.due("kept(39, 0) undone", x.kept(39, 0), 39);
+        c.due("kept(39, 1) undone", x.kept(39, 1), 1);
+        c.due("kept(39, 2) undone", x.kept(39, 2), 20);
     }
 
     private static void draws(Check c) {
