@@ -905,11 +905,11 @@ public final class NightForecast {
                 case WORD_DEAF:
                     return deafStatement();
                 case WORD_SAYS:
-                    return ruleStatement(RULE_SAYS);
+                    return openRule(RULE_SAYS) && sum(0) && closeRule();
                 case WORD_RIVAL:
-                    return ruleStatement(RULE_RIVAL);
+                    return openRule(RULE_RIVAL) && sum(0) && closeRule();
                 case WORD_TURNS:
-                    return ruleStatement(RULE_TURNS);
+                    return openRule(RULE_TURNS) && sum(0) && closeRule();
                 case WORD_GALE:
                     return galeStatement();
                 case WORD_SLIP:
@@ -981,17 +981,18 @@ public final class NightForecast {
             return true;
         }
 
-        private boolean ruleStatement(int rule) {
+        private boolean openRule(int rule) {
             if (draft.rules.isTold(rule)) {
                 return fail(FAULT_COUNT, tokens.start);
             }
             tokens.next();
             scope = rule;
             draft.rules.open(rule);
-            if (!sum(0)) {
-                return false;
-            }
-            draft.rules.close(rule);
+            return true;
+        }
+
+        private boolean closeRule() {
+            draft.rules.close(scope);
             return true;
         }
 
